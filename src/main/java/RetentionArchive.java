@@ -608,7 +608,9 @@ public final class RetentionArchive {
             System.arraycopy(other.names, 0, names, 0, MAX_CLASSES);
             System.arraycopy(other.periods, 0, periods, 0, MAX_CLASSES);
             System.arraycopy(other.closedPeriods, 0, closedPeriods, 0, MAX_CLASSES);
-            System.arraycopy(other.permanent, 0, permanent, 0, MAX_CLASSES);
+            for (int i = 0; i < MAX_CLASSES; i++) {
+                permanent[i] = other.permanent[i];
+            }
             count = other.count;
         }
     }

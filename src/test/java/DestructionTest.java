@@ -13,6 +13,8 @@ final class DestructionTest {
         listDoesNotChangeByItself();
         strikes();
         approvals();
+        queuesOfDestroyedBoxes();
+        fullList();
         wrongCalls();
     }
 
@@ -122,16 +124,38 @@ final class DestructionTest {
         Checks.same("the sealed box", Checks.box(x, 5),
                 "box 0 1980 at 1,1 sealed 2001 lent -1/-1 due 1991/0 obstacle 4 waiting 0/-1");
         Checks.same("destroyedCount", x.destroyedCount(), 1);
-        RetentionArchive y = Checks.loaded("archive 2000 1 2;class a 5 0;reader r 1;reader s 1;box 0 1980;box 0 1980;"
-                + "request 0 0;request 0 1;request 1 0;seal 1 2001;pass 2;seal 1 2002;seal 1 2002");
-        y.passYears(1);
-        y.makeList();
-        y.giveBack(0);
-        Checks.same("borrower", y.borrower(0), -1);
-        Checks.same("waitingReaders in front of the destruction", y.waitingReaders(1), 0);
+    }
+
+    private static void queuesOfDestroyedBoxes() {
+        RetentionArchive x = Checks.loaded("archive 2000 1 3;class a 5 0;reader r 1;reader s 1;box 0 1980;box 0 1981;"
+                + "request 0 0;request 0 1;seal 1 2000;list");
+        Checks.same("waitingReaders in front of the destruction", x.waitingReaders(1), 1);
+        Checks.same("makeList without the sealed box", x.listLength(), 1);
+        RetentionArchive y = Checks.loaded("archive 2000 1 3;class a 5 0;reader r 1;reader s 1;box 0 1980;box 0 1981;"
+                + "request 0 0;request 0 1;list");
         Checks.same("approveList", y.approveList(), 1);
-        Checks.same("isDestroyed", y.isDestroyed(0), true);
-        Checks.same("inconsistencies", y.inconsistencies(), 0);
+        Checks.same("the destroyed box", Checks.box(y, 1),
+                "box 0 1981 at -1,-1 destroyed 0 lent -1/-1 due 1987/0 obstacle 1 waiting 0/-1");
+        Checks.same("giveBack serves no destroyed box", y.giveBack(0), -1);
+        Checks.same("a year serves no destroyed box", y.passYears(1), 0);
+        y.undo();
+        y.undo();
+        y.undo();
+        Checks.same("waitingReaders after undo", y.waitingReaders(1), 1);
+        Checks.same("nextReader after undo", y.nextReader(1), 0);
+    }
+
+    private static void fullList() {
+        RetentionArchive x = Checks.loaded("archive 2000 6 8;class a 1 0;repeat 8(box 0 1990;box 0 1990;box 0 1990);list");
+        Checks.same("listLength", x.listLength(), 24);
+        Checks.same("strike in the middle", x.strike(12, 3), 1995);
+        for (int i = 0; i < 23; i++) {
+            Checks.same("listedBox(" + i + ")", x.listedBox(i), i < 12 ? i : i + 1);
+        }
+        Checks.same("strike of the last one", x.strike(23, 1), 1993);
+        Checks.same("approveList", x.approveList(), 22);
+        Checks.same("freePlaces", x.freePlaces(), 46);
+        Checks.same("inconsistencies", x.inconsistencies(), 0);
     }
 
     private static void wrongCalls() {

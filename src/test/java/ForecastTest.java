@@ -34,6 +34,10 @@ final class ForecastTest {
         x.approveList();
         Checks.same("destroyableAfter(0) without destroyed boxes", x.destroyableAfter(0), 0);
         Checks.same("destroyableAfter(100) without destroyed boxes", x.destroyableAfter(100), 2);
+        x.addBox(0, 1900);
+        Checks.same("destroyableAfter(0) with a new box", x.destroyableAfter(0), 1);
+        x.undo();
+        Checks.same("destroyableAfter(0) without it", x.destroyableAfter(0), 0);
     }
 
     private static void free() {

@@ -13,6 +13,7 @@ final class InputTest {
         loadNeedsALengthWithinTheBuffer();
         loadOfAWrongTextKeepsTheArchive();
         loadReplacesTheArchive();
+        loadKeepsNothingOfEarlierTexts();
     }
 
     private static void appendFillsTheBuffer() {
@@ -138,5 +139,22 @@ final class InputTest {
         Checks.throwsState("restore(0) after load", () -> x.restore(0));
         Checks.throwsState("restore(1) after load", () -> x.restore(1));
         Checks.same("the written text after load", Checks.written(x), "b..");
+    }
+
+    private static void loadKeepsNothingOfEarlierTexts() {
+        String many = "class a 1 0;class b 1 0;reader r 1;reader s 4;box 0 1980;box 1 1981;box 0 1982";
+        RetentionArchive x = Checks.loaded("archive 2000 2 3;" + many + ";request 0 0;request 0 1;request 1 1;request 0 2;"
+                + "seal 2 2010;list;strike 1 5;list;repeat 5(pass 50;pass 40);pass 50");
+        Checks.same("year after 500 years", x.year(), 2500);
+        String fresh = Checks.state(Checks.loaded("archive 1990 2 3;" + many));
+        Checks.load(x, "archive 1990 2 3;" + many);
+        Checks.same("the state is that of a new object", Checks.state(x), fresh);
+        Checks.throwsArgument("load of a wrong text", () -> Checks.load(x, "archive 1990 2 3;" + many
+                + ";request 0 0;request 0 1;seal 2 2010;list;zap"));
+        Checks.load(x, "archive 1990 2 3;" + many);
+        Checks.same("the state is that of a new object once more", Checks.state(x), fresh);
+        Checks.load(x, "archive 2000 1 1;repeat 9(pass 50);pass 50");
+        Checks.load(x, "archive 2000 1 1;repeat 9(pass 50);pass 50");
+        Checks.same("years of an earlier text do not count", x.year(), 2500);
     }
 }

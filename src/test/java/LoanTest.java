@@ -19,6 +19,7 @@ final class LoanTest {
         orderOfTheBoxesInAYear();
         queuesAreServedWhenASealIsOver();
         manyYears();
+        fullArchive();
         wrongCalls();
     }
 
@@ -73,8 +74,7 @@ final class LoanTest {
         Checks.same("seal over", x.requestObstacle(0, 1), 0);
         x.makeList();
         x.approveList();
-        Checks.same("destroyed", x.requestObstacle(0, 0), 4);
-        x.giveBack(0);
+        Checks.same("a lent box is not destroyed", x.requestObstacle(0, 0), 4);
     }
 
     private static void orderOfTheObstacles() {
@@ -239,6 +239,34 @@ final class LoanTest {
         Checks.same("loanYear", x.loanYear(0), 2004);
         Checks.same("passYears(50)", x.passYears(50), 0);
         Checks.same("year", x.year(), 2055);
+    }
+
+    private static void fullArchive() {
+        RetentionArchive x = Checks.loaded("archive 2000 3 8;class a 40 0;reader a 1;reader b 1;reader c 1;reader d 1;"
+                + "reader e 1;reader f 4;repeat 8(box 0 1990;box 0 1990;box 0 1990)");
+        for (int box = 20; box < 24; box++) {
+            x.request(5, box);
+            x.request(0, box);
+            x.request(1, box);
+            x.request(2, box);
+        }
+        Checks.same("loansOf", x.loansOf(5), 4);
+        Checks.same("giveBack of the last box", x.giveBack(23), 0);
+        Checks.same("nextReader of the last box", x.nextReader(23), 1);
+        String before = Checks.state(x);
+        Checks.same("passYears(2)", x.passYears(2), 3);
+        Checks.same("the first box is served first", x.borrower(20), 0);
+        Checks.same("the second box", x.borrower(21), 1);
+        Checks.same("the third box", x.borrower(22), 2);
+        Checks.same("the last box", x.borrower(23), -1);
+        Checks.same("nextReader of the last box", x.nextReader(23), 1);
+        Checks.same("nextReader of the second box", x.nextReader(21), 0);
+        Checks.same("waitingReaders of the second box", x.waitingReaders(21), 2);
+        Checks.same("destroyableAfter(100)", x.destroyableAfter(100), 24);
+        Checks.same("freeAfter(100)", x.freeAfter(100), 24);
+        Checks.same("inconsistencies", x.inconsistencies(), 0);
+        x.undo();
+        Checks.same("the state after undo", Checks.state(x), before);
     }
 
     private static void wrongCalls() {

@@ -1,18 +1,28 @@
 import java.lang.reflect.InvocationTargetException;
 import java.lang.reflect.Method;
+import java.lang.reflect.Modifier;
 import java.util.ArrayList;
-import java.util.Comparator;
 import java.util.List;
+import java.util.Map;
 import java.util.Random;
 import java.util.Set;
+import java.util.TreeMap;
 
 /** Random runs of calls, the same ones each time, whose answers are compared with those of the model. */
 final class RandomRunsTest {
-    private static final int RUNS = 300;
-    private static final int TEXTS = 6000;
+    private static final int RUNS = 200;
+    private static final int TEXTS = 1500;
     private static final int MOST_REPORTS = 5;
     private static final Set<String> CHANGES = Set.of("passYears", "addBox", "moveBox", "seal", "request", "giveBack",
             "makeList", "strike", "approveList", "undo", "save", "restore", "writeMark", "writeShelf", "writeList");
+    /** The changes as often as they are called. */
+    private static final String[] OFTEN = {"passYears", "passYears", "addBox", "addBox", "addBox", "moveBox", "seal",
+        "request", "request", "request", "request", "request", "request", "giveBack", "giveBack", "makeList", "makeList",
+        "strike", "approveList", "undo", "undo", "undo", "save", "restore", "writeMark", "writeShelf", "writeList"};
+
+    private static final Map<String, Method> METHODS = methodsOf(RetentionArchive.class);
+    private static final Map<String, Method> MODEL = methodsOf(Model.class);
+    private static final List<String> NAMES = List.copyOf(METHODS.keySet());
 
     private final Random random;
     private final RetentionArchive x = new RetentionArchive();
@@ -25,28 +35,26 @@ final class RandomRunsTest {
     }
 
     static void run() {
-        List<Method> methods = methods();
         int wrong = 0;
         for (long seed = 1; seed <= RUNS && wrong < MOST_REPORTS; seed++) {
             RandomRunsTest test = new RandomRunsTest(seed);
-            test.randomCalls(methods);
+            test.randomCalls();
             wrong += test.report();
         }
         for (long seed = 1; seed <= TEXTS && wrong < MOST_REPORTS; seed++) {
             RandomRunsTest test = new RandomRunsTest(-seed);
-            test.randomText(methods);
+            test.randomText();
             wrong += test.report();
         }
     }
 
-    private static List<Method> methods() {
-        List<Method> methods = new ArrayList<>();
-        for (Method method : RetentionArchive.class.getDeclaredMethods()) {
-            if (java.lang.reflect.Modifier.isPublic(method.getModifiers())) {
-                methods.add(method);
+    private static Map<String, Method> methodsOf(Class<?> type) {
+        Map<String, Method> methods = new TreeMap<>();
+        for (Method method : type.getDeclaredMethods()) {
+            if (Modifier.isPublic(method.getModifiers())) {
+                methods.put(method.getName(), method);
             }
         }
-        methods.sort(Comparator.comparing(Method::toString));
         return methods;
     }
 
@@ -55,17 +63,11 @@ final class RandomRunsTest {
         return same ? 0 : 1;
     }
 
-    private void call(Method method, Object... arguments) {
-        try {
-            Method other = Model.class.getMethod(method.getName(), method.getParameterTypes());
-            String got = answer(method, x, arguments);
-            String due = answer(other, model, arguments);
-            calls.add(method.getName() + List.of(arguments) + " -> " + got + (got.equals(due) ? "" : ", due is " + due));
-            same &= got.equals(due);
-        } catch (NoSuchMethodException e) {
-            calls.add("the model has no " + method);
-            same = false;
-        }
+    private void call(String name, Object... arguments) {
+        String got = answer(METHODS.get(name), x, arguments);
+        String due = answer(MODEL.get(name), model, arguments);
+        calls.add(name + List.of(arguments) + " -> " + got + (got.equals(due) ? "" : ", due is " + due));
+        same &= got.equals(due);
     }
 
     private static String answer(Method method, Object object, Object... arguments) {
@@ -78,181 +80,205 @@ final class RandomRunsTest {
         }
     }
 
-    private void call(List<Method> methods, String name, Object... arguments) {
-        for (Method method : methods) {
-            if (method.getName().equals(name)) {
-                call(method, arguments);
-            }
-        }
-    }
-
-    private void load(List<Method> methods, String text) {
+    private void load(String text) {
         calls.add("text: " + text);
-        byte[] bytes = Checks.bytesOf(text);
-        for (int at = 0; at < bytes.length; at += 20) {
-            Object[] fours = new Object[5];
-            for (int i = 0; i < 5; i++) {
-                int four = 0;
-                for (int j = at + 4 * i; j < at + 4 * i + 4; j++) {
-                    four = four << 8 | (j < bytes.length ? bytes[j] & 255 : ' ');
-                }
-                fours[i] = four;
-            }
-            call(methods, "append", fours);
+        for (Object[] fours : fours(text)) {
+            call("append", fours);
         }
-        call(methods, "load", bytes.length);
-        call(methods, "parseError");
-        call(methods, "errorPosition");
-        call(methods, "bufferLength");
+        call("load", text.length());
+        call("parseError");
+        call("errorPosition");
+        call("bufferLength");
     }
 
     // ---- random calls
 
-    private void randomCalls(List<Method> methods) {
-        load(methods, text(random.nextInt(12) == 0));
-        for (int i = 0; i < 350 && same; i++) {
-            Method method = methods.get(random.nextInt(methods.size()));
-            boolean seldom = method.getName().equals("append") || method.getName().equals("load")
-                    || method.getName().equals("yearsUntilFree");
-            if (seldom && random.nextInt(8) != 0) {
-                continue;
+    private void randomCalls() {
+        load(text());
+        for (int i = 0; i < 120 && same; i++) {
+            if (random.nextInt(60) == 0) {
+                load(random.nextBoolean() ? text() : damage(text()));
             }
-            if (random.nextInt(120) == 0) {
-                load(methods, text(random.nextBoolean()));
-            }
-            call(method, arguments(method));
-            if (CHANGES.contains(method.getName())) {
-                compareAll(methods);
+            if (random.nextInt(3) != 0) {
+                String name = OFTEN[random.nextInt(OFTEN.length)];
+                call(name, arguments(name));
+                compareAll();
+            } else {
+                String name = NAMES.get(random.nextInt(NAMES.size()));
+                call(name, arguments(name));
             }
         }
     }
 
-    private void compareAll(List<Method> methods) {
-        int boxes = answer("boxCount");
-        int readers = answer("readerCount");
-        for (Method method : methods) {
-            if (CHANGES.contains(method.getName()) || method.getName().matches("append|load|yearsUntilFree|freeAfter")) {
+    private void compareAll() {
+        for (String name : NAMES) {
+            if (CHANGES.contains(name) || name.matches("append|load|yearsUntilFree|freeAfter|destroyableAfter")) {
                 continue;
             }
-            if (method.getParameterCount() == 0) {
-                call(method);
-            } else if (random.nextInt(4) == 0) {
-                call(method, arguments(method));
+            int parameters = METHODS.get(name).getParameterCount();
+            if (parameters == 0 || random.nextInt(4) == 0) {
+                call(name, arguments(name));
             }
         }
-        for (String name : List.of("borrower", "loanYear", "destructionObstacle", "waitingReaders", "nextReader",
-                "shelfOf", "placeOf", "sealedUntil", "postponement")) {
-            for (int box = 0; box < boxes; box++) {
-                call(methods, name, box);
+        for (int box = 0; box < number("boxCount"); box++) {
+            for (String name : List.of("borrower", "loanYear", "destructionObstacle", "waitingReaders", "nextReader",
+                    "shelfOf", "placeOf", "sealedUntil", "postponement")) {
+                call(name, box);
             }
         }
-        for (int reader = 0; reader < readers; reader++) {
-            call(methods, "loansOf", reader);
+        for (int reader = 0; reader < number("readerCount"); reader++) {
+            call("loansOf", reader);
+        }
+        for (int position = 0; position < number("listLength"); position++) {
+            call("listedBox", position);
         }
     }
 
-    private int answer(String count) {
+    private int number(String count) {
         try {
-            return (Integer) Model.class.getMethod(count).invoke(model);
+            return (Integer) MODEL.get(count).invoke(model);
         } catch (ReflectiveOperationException e) {
             return 0;
         }
     }
 
-    private Object[] arguments(Method method) {
-        Object[] arguments = new Object[method.getParameterCount()];
+    private Object[] arguments(String name) {
+        Object[] arguments = new Object[METHODS.get(name).getParameterCount()];
         for (int i = 0; i < arguments.length; i++) {
-            arguments[i] = argument(method.getName(), i);
+            arguments[i] = random.nextInt(40) == 0 ? odd() : argument(name, i);
         }
         return arguments;
     }
 
-    private int argument(String method, int index) {
-        if (random.nextInt(40) == 0) {
-            int[] odd = {-1, Integer.MIN_VALUE, Integer.MAX_VALUE, 0, 8, 24, 50, 51, 100, 101, 600};
-            return odd[random.nextInt(odd.length)];
-        }
-        int year = answer("year");
-        if (index == 1 && (method.equals("addBox") || method.equals("seal"))) {
-            return method.equals("seal") ? year - 1 + random.nextInt(8) : year + 2 - random.nextInt(70);
-        }
-        switch (method) {
+    private int odd() {
+        int[] odd = {-1, Integer.MIN_VALUE, Integer.MAX_VALUE, 0, 6, 8, 24, 50, 51, 100, 101, 600};
+        return odd[random.nextInt(odd.length)];
+    }
+
+    private int below(String count) {
+        return random.nextInt(Math.max(1, number(count)));
+    }
+
+    private int argument(String name, int index) {
+        switch (name) {
             case "passYears":
-                return random.nextInt(4) == 0 ? random.nextInt(52) : 1 + random.nextInt(4);
+                return random.nextInt(5) == 0 ? random.nextInt(52) : 1 + random.nextInt(3);
             case "destroyableAfter":
             case "freeAfter":
-                return random.nextInt(104) - 1;
+                return random.nextInt(random.nextBoolean() ? 102 : 8);
             case "yearsUntilFree":
                 return random.nextInt(random.nextBoolean() ? 50 : 12);
-            case "strike":
-                return index == 1 ? random.nextInt(22) : random.nextInt(Math.max(1, answer("boxCount")));
+            case "load":
+                return random.nextInt(100);
             case "save":
             case "restore":
                 return random.nextInt(2);
             case "textByte":
                 return random.nextInt(12);
-            case "moveBox":
-                return index == 0 ? random.nextInt(Math.max(1, answer("boxCount"))) : random.nextInt(5);
+            case "classLetter":
+                return index == 0 ? below("classCount") : random.nextInt(7);
+            case "readerLetter":
+                return index == 0 ? below("readerCount") : random.nextInt(7);
+            case "period":
+            case "closedPeriod":
+            case "isPermanent":
+                return below("classCount");
+            case "loanLimit":
+            case "loansOf":
+                return below("readerCount");
+            case "addBox":
+                return index == 0 ? below("classCount") : number("year") + 1 - random.nextInt(15);
+            case "seal":
+                return index == 0 ? below("boxCount") : number("year") - 1 + random.nextInt(6);
+            case "strike":
+                return index == 0 ? below("boxCount") : random.nextInt(22);
             case "request":
             case "requestObstacle":
-                return random.nextInt(Math.max(1, answer(index == 0 ? "readerCount" : "boxCount")));
+                return below(index == 0 ? "readerCount" : "boxCount");
+            case "boxAt":
+                return below(index == 0 ? "shelfCount" : "placesPerShelf");
+            case "moveBox":
+                return below(index == 0 ? "boxCount" : index == 1 ? "shelfCount" : "placesPerShelf");
+            case "writeShelf":
+                return below("shelfCount");
             default:
-                return random.nextInt(1 + Math.max(3, answer("boxCount")));
+                return below("boxCount");
         }
     }
 
     // ---- random texts
 
-    private void randomText(List<Method> methods) {
-        for (int i = 0; i < 4; i++) {
-            load(methods, text(random.nextInt(3) != 0));
+    private void randomText() {
+        String text = text();
+        load(text);
+        compareAll();
+        for (int i = 0; i < 8; i++) {
+            load(damage(text));
         }
-        compareAll(methods);
+        compareAll();
     }
 
-    private String text(boolean damaged) {
+    /** A text without an error: a line that the model refuses is left out. */
+    private String text() {
+        int places = 1 + random.nextInt(8);
         StringBuilder text = new StringBuilder();
-        text.append("archive ").append(1900 + random.nextInt(150)).append(' ').append(1 + random.nextInt(4)).append(' ')
-                .append(1 + random.nextInt(6));
+        text.append("archive ").append(1990 + random.nextInt(20)).append(' ').append(1 + random.nextInt(6)).append(' ')
+                .append(places);
         int classes = 1 + random.nextInt(4);
-        int readers = 1 + random.nextInt(5);
+        int readers = random.nextInt(7);
         for (int i = 0; i < classes; i++) {
-            text.append(";class ").append((char) ('a' + i)).append(i % 2 == 0 ? "x " : " ").append(1 + random.nextInt(12))
-                    .append(' ').append(random.nextInt(6)).append(random.nextInt(4) == 0 ? " forever" : "");
+            text.append(";class ").append("abcdef", i, i + 1 + random.nextInt(3)).append(' ')
+                    .append(1 + random.nextInt(8)).append(' ').append(random.nextInt(4))
+                    .append(random.nextInt(5) == 0 ? " forever" : "");
         }
         for (int i = 0; i < readers; i++) {
-            text.append(";reader ").append((char) ('p' + i)).append(' ').append(1 + random.nextInt(i % 2 + 2));
+            text.append(";reader ").append("pqrstuvwx", i, i + 1 + random.nextInt(3)).append(' ')
+                    .append(1 + random.nextInt(2) * random.nextInt(4));
         }
-        int lines = random.nextInt(40);
-        for (int i = 0; i < lines && text.length() < 540; i++) {
-            text.append(';').append(line(classes, readers, 0));
+        int attempts = random.nextInt(80);
+        for (int i = 0; i < attempts; i++) {
+            String longer = text + ";" + line(classes, Math.max(1, readers), 0);
+            if (longer.length() <= 600 && accepted(longer)) {
+                text.setLength(0);
+                text.append(longer);
+            }
         }
-        String whole = text.length() > 600 ? text.substring(0, 600) : text.toString();
-        return damaged ? damage(whole) : whole;
+        return text.toString();
+    }
+
+    private static boolean accepted(String text) {
+        Model model = new Model();
+        for (Object[] fours : fours(text)) {
+            model.append((Integer) fours[0], (Integer) fours[1], (Integer) fours[2], (Integer) fours[3],
+                    (Integer) fours[4]);
+        }
+        return Checks.thrownBy(() -> model.load(text.length())).equals("nothing");
     }
 
     private String line(int classes, int readers, int depth) {
-        int box = random.nextInt(random.nextInt(10) == 0 ? 12 : 4);
-        switch (random.nextInt(13)) {
+        int box = random.nextInt(random.nextBoolean() ? 24 : 5);
+        switch (random.nextInt(15)) {
             case 0:
             case 1:
             case 2:
-                return "box " + random.nextInt(classes) + ' ' + (1900 - random.nextInt(20))
-                        + (random.nextInt(3) == 0 ? " at " + random.nextInt(3) + ' ' + random.nextInt(4) : "");
             case 3:
+                return "box " + random.nextInt(classes) + ' ' + (1995 - random.nextInt(15))
+                        + (random.nextInt(3) == 0 ? " at " + random.nextInt(3) + ' ' + random.nextInt(4) : "");
             case 4:
-                return "request " + random.nextInt(readers) + ' ' + box;
             case 5:
-                return random.nextInt(3) == 0 ? "back " + box : "list";
             case 6:
-                return random.nextInt(2) == 0 ? "seal " + box + ' ' + (2050 + random.nextInt(20)) : "list";
+                return "request " + random.nextInt(readers) + ' ' + box;
             case 7:
-                return random.nextInt(3) == 0 ? "move " + box + ' ' + random.nextInt(2) + ' ' + random.nextInt(5) : "pass 1";
+                return "back " + box;
             case 8:
-                return random.nextInt(4) == 0 ? "strike " + box + ' ' + (1 + random.nextInt(20)) : "pass 2";
+                return "seal " + box + ' ' + (1990 + random.nextInt(40));
             case 9:
-                return random.nextInt(3) == 0 ? "list;approve" : "list";
+                return "move " + box + ' ' + random.nextInt(4) + ' ' + random.nextInt(5);
             case 10:
+                return random.nextBoolean() ? "list" : "strike " + box + ' ' + (1 + random.nextInt(20));
+            case 11:
+                return random.nextBoolean() ? "list;approve" : "approve";
+            case 12:
                 return "pass " + (1 + random.nextInt(random.nextInt(6) == 0 ? 50 : 3));
             default:
                 return repeat(classes, readers, depth);
@@ -274,11 +300,15 @@ final class RandomRunsTest {
     private String damage(String text) {
         StringBuilder damaged = new StringBuilder(text);
         String[] parts = {" ", ";", "(", ")", "0", "9", "50", "list", "box", "class ", "a", " at 0 0", "forever", "x",
-            "repeat 2(", "reader ", "pass 50;", "\u00ff", "A", "9999", "abcdefgh", "12345", "abcdefg"};
-        int times = 1 + random.nextInt(2);
-        for (int i = 0; i < times; i++) {
+            "repeat 2(", "reader ", "pass 50;", ";pass 50", "\u00ff", "A", "9999", "abcdefgh", "12345", "abcdefg",
+            ";box 0 1990", ";list;approve", ";request 0 0"};
+        if (random.nextInt(3) == 0) {
+            damaged.append(';').append(line(4, 6, random.nextInt(2)));
+        }
+        int times = random.nextInt(3);
+        for (int i = 0; i < times && damaged.length() > 0; i++) {
             int at = random.nextInt(damaged.length());
-            switch (random.nextInt(4)) {
+            switch (random.nextInt(5)) {
                 case 0:
                     damaged.deleteCharAt(at);
                     break;
@@ -289,11 +319,31 @@ final class RandomRunsTest {
                 case 2:
                     damaged.insert(at, parts[random.nextInt(parts.length)]);
                     break;
+                case 3:
+                    damaged.setCharAt(at, (char) ('0' + random.nextInt(10)));
+                    break;
                 default:
                     damaged.setCharAt(at, parts[random.nextInt(parts.length)].charAt(0));
                     break;
             }
         }
         return damaged.length() > 600 ? damaged.substring(0, 600) : damaged.toString();
+    }
+
+    private static List<Object[]> fours(String text) {
+        byte[] bytes = Checks.bytesOf(text);
+        List<Object[]> all = new ArrayList<>();
+        for (int at = 0; at < bytes.length; at += 20) {
+            Object[] fours = new Object[5];
+            for (int i = 0; i < 5; i++) {
+                int four = 0;
+                for (int j = at + 4 * i; j < at + 4 * i + 4; j++) {
+                    four = four << 8 | (j < bytes.length ? bytes[j] & 255 : ' ');
+                }
+                fours[i] = four;
+            }
+            all.add(fours);
+        }
+        return all;
     }
 }

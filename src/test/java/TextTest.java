@@ -30,7 +30,7 @@ final class TextTest {
         Checks.wrong(1, "^class 2000 2 3");
         Checks.wrong(1, "^2000 2 3");
         Checks.wrong(1, "archive^");
-        Checks.wrong(1, "archive ^2000a 2 3".replace("^2000a", "2000^a"));
+        Checks.wrong(1, "archive 2000^a 2 3");
         Checks.wrong(1, "archive 2000 ^;");
         Checks.wrong(1, "archive 2000 2^");
         Checks.wrong(1, "archive 2000 2 ^(");
@@ -65,7 +65,14 @@ final class TextTest {
         Checks.wrong(1, "archive 2000 2 3;^approves");
         Checks.wrong(1, "archive 2000 2 3;class ^abcdefgh 1 1");
         Checks.wrong(1, "archive 2000 2 3;^List");
-        Checks.wrong(1, "archive 2000 2 3;l^Ist".replace("l^I", "^lI"));
+        Checks.wrong(1, "archive 2000 2 3;^lIst");
+        for (String word : new String[] {"xlass", "fox", "leader", "deal", "bequest", "pack", "love", "fist", "atrike",
+            "bpprove", "mass", "depeat", "clasz", "bot", "readen", "sea", "sealed", "stroke", "lists"}) {
+            Checks.wrong(1, BOXES + "^" + word + " 0 1 1");
+        }
+        Checks.wrong(1, "^brchive 2000 2 3");
+        Checks.wrong(1, HEAD + "box 0 1990 ^it 0 0");
+        Checks.wrong(1, HEAD + "class a 1 1 ^gorever");
         Checks.wrong(1, "archive 2000 2 3;list^,");
         Checks.wrong(1, "archive 2000 2 3;list^\t");
         Checks.wrong(1, "archive 2000 2 3;list^\n;list");
@@ -73,7 +80,7 @@ final class TextTest {
         Checks.wrong(1, "archive 2000 2 3;list^-");
         Checks.wrong(1, "archive ^-2000 2 3");
         Checks.wrong(1, "archive 2000 2 3;list^\u00e9");
-        Checks.wrong(1, "archive ^20 00 0 2 3".replace("^20 00 0", "^99999"));
+        Checks.wrong(1, "archive ^99999 2 3");
         RetentionArchive x = Checks.loaded("archive1999 2 3;class a1 0;box 0 1800at 1 2;list");
         Checks.same("year without spaces", x.year(), 1999);
         Checks.same("boxAt without spaces", x.boxAt(1, 2), 0);
@@ -310,10 +317,10 @@ final class TextTest {
         Checks.wrong(2, HEAD + "box 0 1990;repeat 2(seal 0 ^2000;pass 1)");
         Checks.wrong(4, HEAD + "repeat 4(^box 1 1990;box 1 1990)");
         Checks.right(HEAD + "repeat 3(box 1 1990;box 1 1990)");
-        Checks.right(HEAD + "repeat 2(class a 1 1)".replace("2(", "1("));
+        Checks.right(HEAD + "repeat 1(class a 1 1)");
         Checks.wrong(3, BOXES + "repeat 2(request 0 0;request 0 ^0)");
         Checks.wrong(1, HEAD + "repeat 2(list;class b 1 1 forever ^forever)");
-        RetentionArchive x = Checks.loaded(HEAD + "repeat 2(class x 1 1 forever)".replace("2(", "1("));
+        RetentionArchive x = Checks.loaded(HEAD + "repeat 1(class x 1 1 forever)");
         Checks.same("forever in front of a bracket", x.isPermanent(2), true);
         Checks.same("at in front of a bracket", Checks.loaded(HEAD + "repeat 1(box 0 1990 at 1 2)").boxAt(1, 2), 0);
     }
@@ -329,7 +336,7 @@ final class TextTest {
         Checks.right(HEAD + "repeat 2(repeat 2(list);repeat 2(list));repeat 9(repeat 9(list))");
         Checks.wrong(1, HEAD + "repeat 2(repeat 2(list)^");
         Checks.wrong(1, HEAD + "repeat 2(repeat 2(list^");
-        Checks.wrong(1, HEAD + "repeat 2(repeat 2(list)));".replace(")));", "))^);"));
+        Checks.wrong(1, HEAD + "repeat 2(repeat 2(list))^);");
         Checks.wrong(1, HEAD + "repeat 2(repeat 2(list) ^list)");
         Checks.right("archive 2000 1 1;" + "repeat 9(repeat 9(" + "list;".repeat(111) + "list))");
     }

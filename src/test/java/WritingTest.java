@@ -73,11 +73,6 @@ final class WritingTest {
             }
         }
         written(y, y.writeList(), all.toString());
-        RetentionArchive late = Checks.loaded("archive 2500 1 1;class a 1 0 forever");
-        for (int i = 0; i < 160; i++) {
-            late.passYears(50);
-        }
-        Checks.same("year of five digits", late.year(), 10500);
         RetentionArchive five = Checks.loaded("archive 2500 1 1;class a 1 0;repeat 9(pass 50)");
         for (int i = 0; i < 150; i++) {
             five.passYears(50);
