@@ -13,6 +13,14 @@ public final class AllTests {
         ForecastTest.run();
         WritingTest.run();
         ChangeTest.run();
+        ClassAndBoxLimitsTest.run();
+        DestructionLimitsTest.run();
+        LoanLimitsTest.run();
+        TextLimitsTest.run();
+        CallLimitsTest.run();
+        UndoLimitsTest.run();
+        RefusalTest.run();
+        GridTest.run();
         RandomRunsTest.run();
         System.out.println(Checks.passed + " passed, " + Checks.failed + " failed");
         System.exit(Checks.failed == 0 && Checks.passed > 0 ? 0 : 1);

@@ -77,7 +77,7 @@ final class Checks {
         }
     }
 
-    private static int four(byte[] bytes, int at) {
+    static int four(byte[] bytes, int at) {
         int number = 0;
         for (int i = at; i < at + 4; i++) {
             number = number << 8 | (i < bytes.length ? bytes[i] & 255 : ' ');
@@ -147,6 +147,29 @@ final class Checks {
                 .append(x.errorPosition()).append(" undoable ").append(x.undoable())
                 .append(" written ").append(written(x)).append('\n');
         return thrownBy(x::year).equals("nothing") ? all.append(state(x)).toString() : all.append("none").toString();
+    }
+
+    /** All that the object tells now, and would tell after a load, after each undo and after each restore; it uses it up. */
+    static String whole(RetentionArchive x) {
+        return picture(x) + "\nbytes " + thrownBy(() -> x.load(x.bufferLength())) + ' ' + x.errorPosition() + archiveOf(x);
+    }
+
+    /** As above, without the input; for an object whose last text, if there was one, had an error. */
+    static String archiveOf(RetentionArchive x) {
+        StringBuilder all = new StringBuilder("\nwritten ").append(written(x));
+        if (thrownBy(x::year).equals("nothing")) {
+            all.append('\n').append(state(x)).append("\nlater ").append(x.destroyableAfter(3)).append(' ')
+                    .append(x.freeAfter(3)).append(' ').append(x.yearsUntilFree(8));
+        }
+        while (thrownBy(x::undo).equals("nothing")) {
+            all.append("\nundone, left ").append(x.undoable()).append('\n').append(state(x));
+        }
+        for (int slot = 0; slot < 2; slot++) {
+            int number = slot;
+            String thrown = thrownBy(() -> x.restore(number));
+            all.append("\nslot ").append(thrown).append('\n').append(thrown.equals("nothing") ? state(x) : "");
+        }
+        return all.toString();
     }
 
     /** The state of the archive alone. */

@@ -1,12 +1,7 @@
-import java.lang.reflect.InvocationTargetException;
-import java.lang.reflect.Method;
-import java.lang.reflect.Modifier;
 import java.util.ArrayList;
 import java.util.List;
-import java.util.Map;
 import java.util.Random;
 import java.util.Set;
-import java.util.TreeMap;
 
 /** Random runs of calls, the same ones each time, whose answers are compared with those of the model. */
 final class RandomRunsTest {
@@ -20,9 +15,7 @@ final class RandomRunsTest {
         "request", "request", "request", "request", "request", "request", "giveBack", "giveBack", "makeList", "makeList",
         "strike", "approveList", "undo", "undo", "undo", "save", "restore", "writeMark", "writeShelf", "writeList"};
 
-    private static final Map<String, Method> METHODS = methodsOf(RetentionArchive.class);
-    private static final Map<String, Method> MODEL = methodsOf(Model.class);
-    private static final List<String> NAMES = List.copyOf(METHODS.keySet());
+    private static final List<String> NAMES = List.copyOf(Calls.PROGRAM.keySet());
 
     private final Random random;
     private final RetentionArchive x = new RetentionArchive();
@@ -48,41 +41,21 @@ final class RandomRunsTest {
         }
     }
 
-    private static Map<String, Method> methodsOf(Class<?> type) {
-        Map<String, Method> methods = new TreeMap<>();
-        for (Method method : type.getDeclaredMethods()) {
-            if (Modifier.isPublic(method.getModifiers())) {
-                methods.put(method.getName(), method);
-            }
-        }
-        return methods;
-    }
-
     private int report() {
         Checks.same("a random run", same ? "the same" : String.join("\n", calls), "the same");
         return same ? 0 : 1;
     }
 
     private void call(String name, Object... arguments) {
-        String got = answer(METHODS.get(name), x, arguments);
-        String due = answer(MODEL.get(name), model, arguments);
+        String got = Calls.answer(x, name, arguments);
+        String due = Calls.answer(model, name, arguments);
         calls.add(name + List.of(arguments) + " -> " + got + (got.equals(due) ? "" : ", due is " + due));
         same &= got.equals(due);
     }
 
-    private static String answer(Method method, Object object, Object... arguments) {
-        try {
-            return String.valueOf(method.invoke(object, arguments));
-        } catch (InvocationTargetException e) {
-            return e.getCause().getClass().getName();
-        } catch (IllegalAccessException e) {
-            return "no access";
-        }
-    }
-
     private void load(String text) {
         calls.add("text: " + text);
-        for (Object[] fours : fours(text)) {
+        for (Object[] fours : Calls.fours(text)) {
             call("append", fours);
         }
         call("load", text.length());
@@ -115,7 +88,7 @@ final class RandomRunsTest {
             if (CHANGES.contains(name) || name.matches("append|load|yearsUntilFree|freeAfter|destroyableAfter")) {
                 continue;
             }
-            int parameters = METHODS.get(name).getParameterCount();
+            int parameters = Calls.PROGRAM.get(name).getParameterCount();
             if (parameters == 0 || random.nextInt(4) == 0) {
                 call(name, arguments(name));
             }
@@ -134,16 +107,14 @@ final class RandomRunsTest {
         }
     }
 
+    /** 0 if there is no archive. */
     private int number(String count) {
-        try {
-            return (Integer) MODEL.get(count).invoke(model);
-        } catch (ReflectiveOperationException e) {
-            return 0;
-        }
+        String number = Calls.answer(model, count);
+        return number.endsWith("Exception") ? 0 : Integer.parseInt(number);
     }
 
     private Object[] arguments(String name) {
-        Object[] arguments = new Object[METHODS.get(name).getParameterCount()];
+        Object[] arguments = new Object[Calls.PROGRAM.get(name).getParameterCount()];
         for (int i = 0; i < arguments.length; i++) {
             arguments[i] = random.nextInt(40) == 0 ? odd() : argument(name, i);
         }
@@ -247,12 +218,7 @@ final class RandomRunsTest {
     }
 
     private static boolean accepted(String text) {
-        Model model = new Model();
-        for (Object[] fours : fours(text)) {
-            model.append((Integer) fours[0], (Integer) fours[1], (Integer) fours[2], (Integer) fours[3],
-                    (Integer) fours[4]);
-        }
-        return Checks.thrownBy(() -> model.load(text.length())).equals("nothing");
+        return !Calls.load(new Model(), text).endsWith("Exception");
     }
 
     private String line(int classes, int readers, int depth) {
@@ -328,22 +294,5 @@ final class RandomRunsTest {
             }
         }
         return damaged.length() > 600 ? damaged.substring(0, 600) : damaged.toString();
-    }
-
-    private static List<Object[]> fours(String text) {
-        byte[] bytes = Checks.bytesOf(text);
-        List<Object[]> all = new ArrayList<>();
-        for (int at = 0; at < bytes.length; at += 20) {
-            Object[] fours = new Object[5];
-            for (int i = 0; i < 5; i++) {
-                int four = 0;
-                for (int j = at + 4 * i; j < at + 4 * i + 4; j++) {
-                    four = four << 8 | (j < bytes.length ? bytes[j] & 255 : ' ');
-                }
-                fours[i] = four;
-            }
-            all.add(fours);
-        }
-        return all;
     }
 }
