@@ -320,7 +320,7 @@ public final class RetentionArchive {
     public float usedShare() throws IllegalStateException {
         needArchive();
         int all = archive.countPlaces();
-        return (float) (all - archive.countFree()) / (float) all;
+        return all == 0 ? 0.0f : (float) (all - archive.countFree()) / (float) all;
     }
 
     public double meanAge() throws IllegalStateException {

@@ -247,6 +247,9 @@ final class CallLimitsTest {
         Checks.same("dueYear of a permanent box", x.dueYear(1), 1986);
         Checks.same("classOf a destroyed box", x.classOf(0), 0);
         Checks.same("closingYear of a destroyed box", x.closingYear(0), 1980);
+        RetentionArchive one = Checks.loaded("archive 2000 1 1;class a 1 0;box 0 1980;list;approve");
+        Checks.same("shelfOf in an archive of one place", one.shelfOf(0), -1);
+        Checks.same("placeOf in an archive of one place", one.placeOf(0), -1);
     }
 
     /** Promise 29: "also if this year is over; 0 if the box has no seal" */
@@ -366,6 +369,8 @@ final class CallLimitsTest {
         Checks.same("of permanent boxes", Checks.loaded(HEAD + "box 1 1980").nextDueBox(), -1);
         Checks.same("of destroyed boxes", Checks.loaded(HEAD + "box 0 1980;list;approve").nextDueBox(), -1);
         Checks.same("on a tie", Checks.loaded(HEAD + "box 1 1970;box 0 1990;box 0 1980;box 0 1980").nextDueBox(), 2);
+        Checks.same("of the first box", Checks.loaded(HEAD + "box 0 1980;box 0 1981").nextDueBox(), 0);
+        Checks.same("of the first box on a tie", Checks.loaded(HEAD + "box 0 1980;box 0 1980").nextDueBox(), 0);
         Checks.same("of a later box", Checks.loaded(HEAD + "box 0 1981;box 0 1980").nextDueBox(), 1);
         Checks.same("of a box that is not due", Checks.loaded(HEAD + "box 0 2000;box 0 1999").nextDueBox(), 1);
         Checks.same("of the last box", Checks.loaded(ALL.replace("8(box 0 1980;box 0 1980", "7(box 0 1980;box 0 1980")
@@ -388,6 +393,7 @@ final class CallLimitsTest {
         Checks.same("of destroyed boxes", Checks.loaded(ALL + ";list;approve").meanAge(), 0.0);
         Checks.same("of a box of this year", Checks.loaded(HEAD + "box 0 2000").meanAge(), 0.0);
         Checks.same("of one box", Checks.loaded(HEAD + "box 0 1999").meanAge(), 1.0);
+        Checks.same("without the destroyed box", Checks.loaded(HEAD + "box 0 1980;list;approve;box 0 1998").meanAge(), 2.0);
         Checks.same("of a third", Checks.loaded(HEAD + "box 0 1999;box 0 2000;box 0 2000").meanAge(), 1.0 / 3.0);
         Checks.same("of the oldest boxes", Checks.loaded("archive 2500 6 8;class a 1 0;repeat 8(box 0 1800;box 0 1800;"
                 + "box 0 1800);repeat 5(pass 50;pass 50)").meanAge(), 1200.0);

@@ -13,6 +13,7 @@ final class LoanLimitsTest {
         limitsOfReaders();
         readersOfTheSameName();
         lengthOfTheQueue();
+        queuesOfAllBoxes();
         obstaclesToARequest();
         orderOfTwoObstacles();
         theWholeQueueIsLookedAt();
@@ -107,6 +108,34 @@ final class LoanLimitsTest {
         Checks.same("a third waiting reader once more", x.request(4, 0), false);
         Checks.same("another box's queue is its own", x.request(5, 1), true);
         Checks.wrong(3, TEXT + "request 0 0;request 1 0;request 2 0;request 3 0;request 4 ^0");
+    }
+
+    /** "Each box has a queue": the first boxes' and the last ones' are not mixed up. */
+    private static void queuesOfAllBoxes() {
+        RetentionArchive x = Checks.loaded("archive 2000 3 8;class a 1 0;reader a 4;reader b 4;reader c 4;reader d 4;"
+                + "reader e 4;reader f 4;repeat 8(box 0 1980;box 0 1980;box 0 1980)");
+        for (int box = 0; box < 24; box++) {
+            x.request(box / 4, box);
+            for (int i = 1; i <= 1 + box % 3; i++) {
+                Checks.same("request", x.request((box / 4 + i) % 6, box), false);
+            }
+        }
+        String before = Checks.state(x);
+        Checks.same("giveBack of the last box", x.giveBack(23), -1);
+        for (int box = 0; box < 24; box++) {
+            Checks.same("waitingReaders(" + box + ")", x.waitingReaders(box), 1 + box % 3);
+            Checks.same("nextReader(" + box + ")", x.nextReader(box), (box / 4 + 1) % 6);
+            for (int reader = 0; reader < 6; reader++) {
+                int place = (reader - box / 4 + 6) % 6;
+                boolean here = place <= 1 + box % 3 && (place > 0 || box < 23);
+                Checks.same("requestObstacle(" + reader + ", " + box + ")", x.requestObstacle(reader, box),
+                        here ? 4 : box % 3 == 2 ? 5 : 0);
+            }
+        }
+        x.passYears(2);
+        x.undo();
+        x.undo();
+        Checks.same("the state after undo", Checks.state(x), before);
     }
 
     /** "1 the box is destroyed; 2 it is sealed; 3 it is not open; 4 has the box or waits for it; 5 the queue is full" */

@@ -1,3 +1,5 @@
+import java.lang.reflect.Method;
+import java.util.Arrays;
 import java.util.function.Consumer;
 import java.util.function.Supplier;
 
@@ -333,23 +335,29 @@ final class RefusalTest {
 
     /** "IllegalStateException is thrown if no text has been loaded yet", ahead of all that is wrong with the numbers. */
     private static void missingArchiveComesFirst() {
-        for (int number : new int[] {LEAST, -1, 0, 1, 2001, MOST}) {
-            refused(RetentionArchive::new, STATE, "boxAt", x -> x.boxAt(number, number));
-            refused(RetentionArchive::new, STATE, "destroyableAfter", x -> x.destroyableAfter(number));
-            refused(RetentionArchive::new, STATE, "yearsUntilFree", x -> x.yearsUntilFree(number));
-            refused(RetentionArchive::new, STATE, "passYears", x -> x.passYears(number));
-            refused(RetentionArchive::new, STATE, "addBox", x -> x.addBox(number, number));
-            refused(RetentionArchive::new, STATE, "moveBox", x -> x.moveBox(number, number, number));
-            refused(RetentionArchive::new, STATE, "seal", x -> x.seal(number, number));
-            refused(RetentionArchive::new, STATE, "request", x -> x.request(number, number));
-            refused(RetentionArchive::new, STATE, "giveBack", x -> x.giveBack(number));
-            refused(RetentionArchive::new, STATE, "strike", x -> x.strike(number, number));
-            refused(RetentionArchive::new, STATE, "save", x -> x.save(number));
+        for (Method method : Calls.PROGRAM.values()) {
+            Class<?>[] thrown = method.getExceptionTypes();
+            if (thrown.length > 0 && thrown[0] == IllegalStateException.class) {
+                for (int number : new int[] {LEAST, -1, 0, 1, 2001, MOST}) {
+                    withoutAnArchive(method.getName(), method.getParameterCount(), number);
+                }
+            }
         }
-        refused(RetentionArchive::new, STATE, "makeList", RetentionArchive::makeList);
-        refused(RetentionArchive::new, STATE, "approveList", RetentionArchive::approveList);
         refused(RetentionArchive::new, INDEX, "restore(2), which lists the slot first", x -> x.restore(2));
         refused(RetentionArchive::new, INDEX, "load(-1), which lists the length first", x -> x.load(-1));
+    }
+
+    private static void withoutAnArchive(String name, int count, int number) {
+        Object[] arguments = new Object[count];
+        Arrays.fill(arguments, number);
+        for (String text : new String[] {"", "archive 2000 1 9"}) {
+            RetentionArchive x = new RetentionArchive();
+            RetentionArchive twin = new RetentionArchive();
+            Calls.load(x, text);
+            Calls.load(twin, text);
+            Checks.same(name + " of " + number + " throws", Calls.answer(x, name, arguments), "java.lang." + STATE);
+            Checks.same(name + " of " + number + " changes nothing", Checks.whole(x), Checks.whole(twin));
+        }
     }
 
     /** "If several exceptions apply to a call, the one that is listed first in its documentation is thrown." */
