@@ -892,6 +892,9 @@ public final class RetentionArchive {
 
         /** Boxes come in the order of their numbers, so on a tie the new one stays behind. */
         private void insertIntoList(int box) {
+            if (listed >= MAX_BOXES) {
+                return;
+            }
             int position = listed;
             while (position > 0 && due(list[position - 1]) > due(box)) {
                 list[position] = list[position - 1];

@@ -4,6 +4,8 @@ public final class AllTests {
     }
 
     public static void main(String[] args) {
+        LanguageTest.run();
+        ReadmeTest.run();
         FaceTest.run();
         InputTest.run();
         TextTest.run();
